@@ -1,0 +1,291 @@
+import java.util.NoSuchElementException;
+
+/**
+ * Long runs of calls from a fixed row of numbers. Each hour is worked out a second time here, in the plainest way, from what
+ * the object tells before it; and what the document says of all runs is looked at after each call.
+ */
+public final class RandomRunsTest {
+    private static long row = 1;
+
+    public static void main(String[] args) {
+        for (int run = 1; run <= 1500; run++) {
+            row = run * 7919L;
+            runOf(run, 120);
+        }
+        Check.end("RandomRunsTest");
+    }
+
+    private static int below(int bound) {
+        row = row * 6364136223846793005L + 1442695040888963407L;
+        return (int) ((row >>> 33) % bound);
+    }
+
+    private static void runOf(int run, int calls) {
+        FordToll ford = new FordToll();
+        String[] before = new String[calls + 1];
+        int kept = 0;
+        String saved = null;
+        for (int call = 0; call < calls; call++) {
+            String state = Check.state(ford);
+            int which = below(30);
+            if (which == 0 && saved == null || which == 1) {
+                ford.save();
+                saved = state;
+            } else if (which == 2 && saved != null && below(3) == 0) {
+                ford.restore();
+                kept = 0;
+                Check.is("run " + run + ": restored", Check.state(ford), saved);
+            } else if (which == 3 && kept > 0) {
+                kept--;
+                ford.undo();
+                Check.is("run " + run + ": undone", Check.state(ford), before[kept]);
+            } else if (changed(ford, which)) {
+                if (kept == 8) {
+                    System.arraycopy(before, 1, before, 0, 7);
+                    kept = 7;
+                }
+                before[kept] = state;
+                kept++;
+            } else {
+                Check.is("run " + run + ": unchanged", Check.state(ford), state);
+            }
+            Check.is("run " + run + ": changes", ford.account(18), kept);
+            looked(ford, run);
+        }
+    }
+
+    /** Whether the change came about; it throws nothing but what the document names. */
+    private static boolean changed(FordToll ford, int which) {
+        int one = below(9);
+        try {
+            switch (which) {
+                case 4: case 5: ford.height(below(10), 3 + below(10)); return true;
+                case 6: ford.height(below(11), below(32)); return true;
+                case 7: case 8: ford.rain(below(4)); return true;
+                case 9: ford.rain(below(11)); return true;
+                case 10: case 11: ford.letters(below(52)); return true;
+                case 12: case 13: case 14: ford.traveller(below(5) == 0 ? below(23) : below(6)); return true;
+                case 15: ford.leave(one); return true;
+                case 16: ford.stop(one); return true;
+                case 17: case 18: ford.go(one); return true;
+                case 19: case 20: case 21: case 22: ford.setOut(one); return true;
+                case 23: passAndLook(ford, 1 + below(24)); return true;
+                default: passAndLook(ford, 1 + below(4)); return true;
+            }
+        } catch (IndexOutOfBoundsException | IllegalArgumentException | UnsupportedOperationException wrong) {
+            return false;
+        }
+    }
+
+    private static void passAndLook(FordToll ford, int hours) {
+        Plain plain = new Plain(ford);
+        int before = plain.crossings;
+        for (int hour = 0; hour < hours; hour++) {
+            plain.hourGoesBy();
+        }
+        Check.is("crossed", ford.pass(hours), plain.crossings - before);
+        Check.is("as worked out plainly", new Plain(ford).told(), plain.told());
+    }
+
+    private static void looked(FordToll ford, int run) {
+        int hours = below(61);
+        Check.is("run " + run + ": flood", ford.flood(hours), ford.floodAgain(hours));
+        Check.is("run " + run + ": letters", ford.lettersAgain(), ford.account(8));
+        Check.is("run " + run + ": all are somewhere", ford.account(4) + ford.account(5) + ford.account(6), ford.account(3));
+        int kinds = 0;
+        for (int kind = 0; kind <= 2; kind++) {
+            kinds |= canCross(ford, kind) ? 1 << kind : 0;
+        }
+        Check.is("run " + run + ": kinds", ford.kinds(), kinds);
+        for (int traveller = 0; traveller < ford.account(3); traveller++) {
+            Check.is("run " + run + ": crossedIn", crossedIn(ford, traveller), new Plain(ford).crossedIn(traveller));
+        }
+        Check.is("run " + run + ": clearIn", clearIn(ford), new Plain(ford).clearIn());
+    }
+
+    private static boolean canCross(FordToll ford, int kind) {
+        try {
+            return ford.wetSteps(kind) >= 0;
+        } catch (NoSuchElementException none) {
+            return false;
+        }
+    }
+
+    private static int crossedIn(FordToll ford, int traveller) {
+        try {
+            return ford.crossedIn(traveller);
+        } catch (NoSuchElementException none) {
+            return -1;
+        }
+    }
+
+    private static int clearIn(FordToll ford) {
+        try {
+            return ford.clearIn();
+        } catch (NoSuchElementException none) {
+            return -1;
+        }
+    }
+
+    /** What the object tells, in rows, and an hour worked out on them by the document's sentences one by one. */
+    private static final class Plain {
+        private final int[] heights = new int[10];
+        private final int[][] people;
+        private int flood;
+        private final int rain;
+        private int hour;
+        private int bag;
+        private int delivered;
+        private int crossings;
+        private int backs;
+
+        Plain(FordToll ford) {
+            for (int stone = 0; stone < 10; stone++) {
+                heights[stone] = ford.stoneOf(stone, 0);
+            }
+            people = new int[ford.account(3)][9];
+            for (int one = 0; one < people.length; one++) {
+                for (int what = 0; what < 9; what++) {
+                    people[one][what] = ford.travellerOf(one, what);
+                }
+            }
+            hour = ford.account(0);
+            flood = ford.account(1);
+            rain = ford.account(2);
+            bag = ford.account(8);
+            delivered = ford.account(10);
+            crossings = ford.account(13);
+            backs = ford.account(14);
+        }
+
+        String told() {
+            StringBuilder text = new StringBuilder();
+            text.append(hour).append(' ').append(flood).append(' ').append(bag).append(' ').append(delivered);
+            text.append(' ').append(crossings).append(' ').append(backs);
+            for (int[] one : people) {
+                text.append(" |");
+                for (int number : one) {
+                    text.append(' ').append(number);
+                }
+            }
+            return text.toString();
+        }
+
+        int clearIn() {
+            for (int hours = 0; hours <= 60; hours++) {
+                boolean clear = true;
+                for (int height : heights) {
+                    clear &= flood <= height;
+                }
+                if (clear) {
+                    return hours;
+                }
+                hourGoesBy();
+            }
+            return -1;
+        }
+
+        int crossedIn(int one) {
+            if (people[one][4] == 0) {
+                return -1;
+            }
+            int other = people[one][5] == 1 ? 10 : -1;
+            for (int hours = 1; hours <= 60; hours++) {
+                hourGoesBy();
+                if (people[one][3] == other) {
+                    return hours;
+                }
+            }
+            return -1;
+        }
+
+        void hourGoesBy() {
+            flood = Math.min(40, flood + rain);
+            flood = flood > 4 ? Math.max(4, flood - 2) : flood;
+            for (int[] one : people) {
+                back(one);
+            }
+            for (int[] one : people) {
+                if (one[4] == 1 && one[6] == 0) {
+                    step(one);
+                }
+            }
+            for (int[] one : people) {
+                if (one[3] >= 0 && one[3] <= 9) {
+                    one[2] = flood + 2 >= heights[one[3]] ? Math.min(20, one[2] + 2) : Math.max(0, one[2] - 1);
+                }
+            }
+            stove(-1);
+            stove(10);
+            hour++;
+        }
+
+        private boolean onUnder(int place) {
+            return place >= 0 && place <= 9 && flood > heights[place];
+        }
+
+        private void back(int[] one) {
+            if (!onUnder(one[3])) {
+                return;
+            }
+            while (onUnder(one[3])) {
+                one[3] += one[5] == 1 ? -1 : 1;
+            }
+            one[2] = Math.min(20, one[2] + 5);
+            backs++;
+            if (one[3] == -1 || one[3] == 10) {
+                one[4] = 0;
+                one[6] = 0;
+                bag += one[8];
+                one[8] = 0;
+            }
+        }
+
+        private void step(int[] one) {
+            int next = one[3] + (one[5] == 1 ? 1 : -1);
+            if (next == -1 || next == 10) {
+                one[3] = next;
+                one[4] = 0;
+                one[5] = 1 - one[5];
+                one[7]++;
+                crossings++;
+                delivered += one[8];
+                one[8] = 0;
+                return;
+            }
+            boolean dry = heights[next] > flood + 2;
+            boolean awash = !dry && heights[next] >= flood;
+            boolean leavesBank = one[3] == -1 || one[3] == 10;
+            boolean can = dry;
+            if (one[0] == 0) {
+                can = dry || awash;
+            } else if (one[0] == 1) {
+                can = dry || awash && (leavesBank || !(heights[next] < heights[one[3]]));
+            }
+            if (can) {
+                one[3] = next;
+            }
+        }
+
+        private void stove(int bank) {
+            boolean[] chosen = new boolean[people.length];
+            for (int turn = 0; turn < 2; turn++) {
+                int best = -1;
+                for (int one = people.length - 1; one >= 0; one--) {
+                    boolean fits = people[one][3] == bank && people[one][4] == 0 && people[one][2] > 0 && !chosen[one];
+                    if (fits && (best < 0 || people[one][2] >= people[best][2])) {
+                        best = one;
+                    }
+                }
+                if (best >= 0) {
+                    chosen[best] = true;
+                }
+            }
+            for (int one = 0; one < people.length; one++) {
+                if (chosen[one]) {
+                    people[one][2] = Math.max(0, people[one][2] - 3);
+                }
+            }
+        }
+    }
+}
