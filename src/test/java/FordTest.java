@@ -56,6 +56,9 @@ public final class FordTest {
         Check.fails("2: range before refusal", IllegalArgumentException.class, () -> ford.height(0, 31));
         Check.is("2: kept", ford.stoneOf(0, 0), 10);
         Check.is("2: another stone", ford.height(1, 5), 10);
+        ford.setOut(0);
+        ford.pass(1);
+        Check.refused("2: in use by the first", ford, 6, 0, () -> ford.height(0, 5));
     }
 
     private static void rain() {

@@ -64,7 +64,7 @@ public final class RandomRunsTest {
                 case 7: case 8: ford.rain(below(4)); return true;
                 case 9: ford.rain(below(11)); return true;
                 case 10: case 11: ford.letters(below(52)); return true;
-                case 12: case 13: case 14: ford.traveller(below(5) == 0 ? below(23) : below(6)); return true;
+                case 12: case 13: case 14: arrive(ford, below(5) == 0 ? below(23) : below(6)); return true;
                 case 15: ford.leave(one); return true;
                 case 16: ford.stop(one); return true;
                 case 17: case 18: ford.go(one); return true;
@@ -74,6 +74,15 @@ public final class RandomRunsTest {
             }
         } catch (IndexOutOfBoundsException | IllegalArgumentException | UnsupportedOperationException wrong) {
             return false;
+        }
+    }
+
+    private static void arrive(FordToll ford, int load) {
+        int one = ford.traveller(load);
+        Check.is("the last number", one, ford.account(3) - 1);
+        int[] due = {load < 4 ? 0 : load < 9 ? 1 : 2, load, 0, -1, 0, 1, 0, 0, 0};
+        for (int what = 0; what <= 8; what++) {
+            Check.is("arrived, " + what, ford.travellerOf(one, what), due[what]);
         }
     }
 
@@ -94,20 +103,23 @@ public final class RandomRunsTest {
         Check.is("run " + run + ": all are somewhere", ford.account(4) + ford.account(5) + ford.account(6), ford.account(3));
         int kinds = 0;
         for (int kind = 0; kind <= 2; kind++) {
-            kinds |= canCross(ford, kind) ? 1 << kind : 0;
+            int steps = wetSteps(ford, kind);
+            Check.is("run " + run + ": wetSteps", steps, new Plain(ford).wetSteps(kind));
+            kinds |= steps >= 0 ? 1 << kind : 0;
         }
         Check.is("run " + run + ": kinds", ford.kinds(), kinds);
+        Check.is("run " + run + ": line", Check.line(ford), new Plain(ford).line());
         for (int traveller = 0; traveller < ford.account(3); traveller++) {
             Check.is("run " + run + ": crossedIn", crossedIn(ford, traveller), new Plain(ford).crossedIn(traveller));
         }
         Check.is("run " + run + ": clearIn", clearIn(ford), new Plain(ford).clearIn());
     }
 
-    private static boolean canCross(FordToll ford, int kind) {
+    private static int wetSteps(FordToll ford, int kind) {
         try {
-            return ford.wetSteps(kind) >= 0;
+            return ford.wetSteps(kind);
         } catch (NoSuchElementException none) {
-            return false;
+            return -1;
         }
     }
 
@@ -197,6 +209,34 @@ public final class RandomRunsTest {
                 }
             }
             return -1;
+        }
+
+        /** One traveller of the kind is put on the near bank and goes as far as the flood lets it. */
+        int wetSteps(int kind) {
+            int[] one = {kind, 0, 0, -1, 1, 1, 0, 0, 0};
+            int steps = 0;
+            while (one[3] < 10) {
+                int place = one[3];
+                step(one);
+                if (one[3] == place) {
+                    return -1;
+                }
+                steps += one[3] < 10 && heights[one[3]] <= flood + 2 ? 1 : 0;
+            }
+            return steps;
+        }
+
+        String line() {
+            StringBuilder text = new StringBuilder();
+            for (int height : heights) {
+                text.append(flood > height ? '_' : flood >= height - 2 ? '~' : '.');
+            }
+            for (int one = people.length - 1; one >= 0; one--) {
+                if (people[one][3] >= 0 && people[one][3] <= 9) {
+                    text.setCharAt(people[one][3], (char) ('0' + one));
+                }
+            }
+            return text.append(' ').append(flood).toString();
         }
 
         void hourGoesBy() {

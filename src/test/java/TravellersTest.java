@@ -4,6 +4,7 @@ import java.util.NoSuchElementException;
 public final class TravellersTest {
     public static void main(String[] args) {
         traveller();
+        travellerAfterOthers();
         travellerOf();
         fee();
         setOut();
@@ -56,6 +57,25 @@ public final class TravellersTest {
         ford.leave(3);
         Check.is("10: after one left", ford.traveller(5), 7);
         Check.is("10: a new one is dry", wet(ford, 7), 0);
+    }
+
+    /** The one who left was wet, had crossed and was followed by one who was stopped: nothing of them is on the new one. */
+    private static void travellerAfterOthers() {
+        FordToll ford = with(0, 0);
+        ford.height(9, 5);
+        ford.setOut(0);
+        ford.setOut(1);
+        ford.pass(11);
+        ford.height(9, 6);
+        ford.setOut(1);
+        ford.pass(1);
+        ford.stop(1);
+        ford.leave(0);
+        Check.is("10: in the place of another", ford.traveller(1), 1);
+        int[] fresh = {0, 1, 0, -1, 0, 1, 0, 0, 0};
+        for (int what = 0; what <= 8; what++) {
+            Check.is("10: fresh, " + what, ford.travellerOf(1, what), fresh[what]);
+        }
     }
 
     private static void travellerOf() {
@@ -475,6 +495,10 @@ public final class TravellersTest {
         Check.fails("19: carrier down to one awash", NoSuchElementException.class, () -> ford.wetSteps(1));
         Check.is("19: walker still", ford.wetSteps(0), 5);
         Check.is("20: walker", ford.kinds(), 1);
+        ford.height(9, 10);
+        ford.height(4, 6);
+        ford.height(3, 5);
+        Check.fails("19: carrier down by 1", NoSuchElementException.class, () -> ford.wetSteps(1));
         ford.height(5, 3);
         Check.fails("19: walker", NoSuchElementException.class, () -> ford.wetSteps(0));
         Check.is("20: none", ford.kinds(), 0);
