@@ -1,3 +1,7 @@
+import java.util.NoSuchElementException;
+import java.util.function.Function;
+import java.util.function.Supplier;
+
 /** What the tests share: calls with the answer or the exception that is due, and a count of the wrong ones. */
 final class Check {
     interface Call {
@@ -39,6 +43,23 @@ final class Check {
         fails(what, UnsupportedOperationException.class, call);
         is(what + ", reason", ford.refusal(false), reason);
         is(what + ", detail", ford.refusal(true), detail);
+    }
+
+    /** The call throws that, and all is as before; two objects are made, so that each stays below 512 calls. */
+    static void failsAndKeeps(String what, Supplier<FordToll> made, Class<? extends RuntimeException> due,
+            Function<FordToll, Object> call) {
+        FordToll ford = made.get();
+        fails(what, due, () -> call.apply(ford));
+        FordToll untouched = made.get();
+        is(what + ", all is as before", all(ford), all(untouched));
+        is(what + ", the reason is as before", told(ford), told(untouched));
+    }
+
+    /** The call is refused for that reason, and all but the reason is as before. */
+    static void refusedAndKeeps(String what, Supplier<FordToll> made, int reason, int detail, Function<FordToll, Object> call) {
+        FordToll ford = made.get();
+        refused(what, ford, reason, detail, () -> call.apply(ford));
+        is(what + ", all is as before", all(ford), all(made.get()));
     }
 
     static void end(String test) {
@@ -100,5 +121,42 @@ final class Check {
             }
         }
         return text.append(ford.lettersAgain()).append(' ').append(ford.under()).toString();
+    }
+
+    /** All that calls can tell, but for the latest refusal and the snapshot, in some 160 calls. */
+    static String all(FordToll ford) {
+        StringBuilder text = new StringBuilder(state(ford));
+        for (int what = 16; what <= 18; what++) {
+            text.append(' ').append(ford.account(what));
+        }
+        text.append(" answer ").append(answered(ford)).append(" error ");
+        try {
+            text.append(ford.errorPosition());
+        } catch (NoSuchElementException none) {
+            text.append("none");
+        }
+        return text.append(" line ").append(lineBefore(ford)).toString();
+    }
+
+    /** The line that was written, without writing it again. */
+    static String lineBefore(FordToll ford) {
+        StringBuilder text = new StringBuilder();
+        try {
+            for (int index = 0; index < 20; index++) {
+                text.append(ford.written(index));
+            }
+        } catch (NoSuchElementException end) {
+            text.append('|');
+        }
+        return text.toString();
+    }
+
+    /** The latest refusal, as in "2 -1", or "none". */
+    static String told(FordToll ford) {
+        try {
+            return ford.refusal(false) + " " + ford.refusal(true);
+        } catch (NoSuchElementException none) {
+            return "none";
+        }
     }
 }

@@ -24,7 +24,7 @@ public final class ErrorPositionsTest {
         for (int text = 0; text < 4000; text++) {
             good += look(madeUp(), new FordToll()) ? 1 : 0;
         }
-        Check.is("some are questions, " + good, good > 200 && good < 3800, true);
+        Check.is("22: some are questions, " + good, good > 200 && good < 3800, true);
         Check.end("ErrorPositionsTest");
     }
 
@@ -80,9 +80,9 @@ public final class ErrorPositionsTest {
         } catch (IllegalArgumentException malformed) {
             got = false;
         }
-        Check.is("a question: " + text, got, due);
+        Check.is("22: a question: " + text, got, due);
         if (!due) {
-            Check.is("error position: " + text, ford.errorPosition(), errorPosition(text));
+            Check.is("24: error position: " + text, ford.errorPosition(), errorPosition(text));
         }
         return due;
     }

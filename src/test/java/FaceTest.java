@@ -76,45 +76,45 @@ public final class FaceTest {
             if (!Modifier.isPrivate(method.getModifiers())) {
                 got.add(told(method));
                 names.add(method.getName());
-                Check.is("public, not static: " + method, method.getModifiers(), Modifier.PUBLIC);
+                Check.is("The public face: public, not static: " + method, method.getModifiers(), Modifier.PUBLIC);
             }
         }
         List<String> due = new ArrayList<>(Arrays.asList(FACE));
         Collections.sort(got);
         Collections.sort(due);
-        Check.is("methods", got, due);
+        Check.is("The public face: methods", got, due);
         for (Method method : FordToll.class.getDeclaredMethods()) {
             if (Modifier.isPrivate(method.getModifiers())) {
-                Check.is("a private method's name is its own: " + method, names.contains(method.getName()), false);
+                Check.is("The public face: a private method's name is its own: " + method, names.contains(method.getName()), false);
             }
         }
     }
 
     private static void constructors() {
         Constructor<?>[] all = FordToll.class.getDeclaredConstructors();
-        Check.is("constructors", all.length, 1);
-        Check.is("public", all[0].getModifiers(), Modifier.PUBLIC);
-        Check.is("takes nothing", all[0].getParameterCount(), 0);
+        Check.is("The public face: constructors", all.length, 1);
+        Check.is("The public face: public", all[0].getModifiers(), Modifier.PUBLIC);
+        Check.is("The public face: takes nothing", all[0].getParameterCount(), 0);
     }
 
     private static void fields() {
-        Check.is("public and final", FordToll.class.getModifiers(), Modifier.PUBLIC | Modifier.FINAL);
+        Check.is("The public face: public and final", FordToll.class.getModifiers(), Modifier.PUBLIC | Modifier.FINAL);
         int counted = 0;
         for (Field field : FordToll.class.getDeclaredFields()) {
-            Check.is("private: " + field, Modifier.isPrivate(field.getModifiers()), true);
+            Check.is("The public face: private: " + field, Modifier.isPrivate(field.getModifiers()), true);
             if (Modifier.isStatic(field.getModifiers())) {
-                Check.is("final: " + field, Modifier.isFinal(field.getModifiers()), true);
+                Check.is("The public face: final: " + field, Modifier.isFinal(field.getModifiers()), true);
             } else {
                 counted++;
             }
         }
-        Check.is("some twenty fields at most", counted <= 20, true);
+        Check.is("The public face: some twenty fields at most", counted <= 20, true);
     }
 
     private static void classesInside() {
         for (Class<?> inside : FordToll.class.getDeclaredClasses()) {
-            Check.is("private: " + inside, Modifier.isPrivate(inside.getModifiers()), true);
-            Check.is("static: " + inside, Modifier.isStatic(inside.getModifiers()), true);
+            Check.is("The public face: private: " + inside, Modifier.isPrivate(inside.getModifiers()), true);
+            Check.is("The public face: static: " + inside, Modifier.isStatic(inside.getModifiers()), true);
         }
     }
 }

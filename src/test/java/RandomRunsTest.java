@@ -1,10 +1,14 @@
+import java.util.ArrayList;
+import java.util.List;
 import java.util.NoSuchElementException;
+import java.util.function.Function;
 
 /**
  * Long runs of calls from a fixed row of numbers. Each hour is worked out a second time here, in the plainest way, from what
  * the object tells before it; and what the document says of all runs is looked at after each call.
  */
 public final class RandomRunsTest {
+    private static final List<Function<FordToll, Integer>> CALLS = new ArrayList<>();
     private static long row = 1;
 
     public static void main(String[] args) {
@@ -20,99 +24,120 @@ public final class RandomRunsTest {
         return (int) ((row >>> 33) % bound);
     }
 
-    private static void runOf(int run, int calls) {
+    /** A new object after the calls so far, so that no object is asked more than 512 times. */
+    private static FordToll made() {
         FordToll ford = new FordToll();
-        String[] before = new String[calls + 1];
-        int kept = 0;
+        for (Function<FordToll, Integer> call : CALLS) {
+            call.apply(ford);
+        }
+        return ford;
+    }
+
+    private static void runOf(int run, int calls) {
+        CALLS.clear();
+        List<String> before = new ArrayList<>();
         String saved = null;
         for (int call = 0; call < calls; call++) {
-            String state = Check.state(ford);
+            String state = Check.state(made());
             int which = below(30);
             if (which == 0 && saved == null || which == 1) {
-                ford.save();
+                CALLS.add(FordToll::save);
                 saved = state;
             } else if (which == 2 && saved != null && below(3) == 0) {
-                ford.restore();
-                kept = 0;
-                Check.is("run " + run + ": restored", Check.state(ford), saved);
-            } else if (which == 3 && kept > 0) {
-                kept--;
-                ford.undo();
-                Check.is("run " + run + ": undone", Check.state(ford), before[kept]);
-            } else if (changed(ford, which)) {
-                if (kept == 8) {
-                    System.arraycopy(before, 1, before, 0, 7);
-                    kept = 7;
+                CALLS.add(FordToll::restore);
+                before.clear();
+                Check.is("34: restored, run " + run, Check.state(made()), saved);
+            } else if (which == 3 && !before.isEmpty()) {
+                CALLS.add(FordToll::undo);
+                Check.is("32: undone, run " + run, Check.state(made()), before.remove(before.size() - 1));
+            } else if (comesAbout(which, change(which), state)) {
+                before.add(state);
+                if (before.size() > 8) {
+                    before.remove(0);
                 }
-                before[kept] = state;
-                kept++;
-            } else {
-                Check.is("run " + run + ": unchanged", Check.state(ford), state);
             }
-            Check.is("run " + run + ": changes", ford.account(18), kept);
-            looked(ford, run);
+            looked(made(), before.size());
         }
     }
 
-    /** Whether the change came about; it throws nothing but what the document names. */
-    private static boolean changed(FordToll ford, int which) {
+    private static Function<FordToll, Integer> change(int which) {
         int one = below(9);
+        int stone = below(which == 6 ? 11 : 10);
+        int height = which == 6 ? below(32) : 3 + below(10);
+        int rain = below(which == 9 ? 11 : 4);
+        int many = below(52);
+        int load = below(5) == 0 ? below(23) : below(6);
+        int hours = 1 + below(which == 23 ? 24 : 4);
+        switch (which) {
+            case 4: case 5: case 6: return ford -> ford.height(stone, height);
+            case 7: case 8: case 9: return ford -> ford.rain(rain);
+            case 10: case 11: return ford -> ford.letters(many);
+            case 12: case 13: case 14: return ford -> ford.traveller(load);
+            case 15: return ford -> ford.leave(one);
+            case 16: return ford -> ford.stop(one);
+            case 17: case 18: return ford -> ford.go(one);
+            case 19: case 20: case 21: case 22: return ford -> ford.setOut(one);
+            default: return ford -> ford.pass(hours);
+        }
+    }
+
+    /** Whether the change came about; it throws nothing but what the document names, and then changes nothing. */
+    private static boolean comesAbout(int which, Function<FordToll, Integer> change, String state) {
+        FordToll ford = made();
+        int got;
         try {
-            switch (which) {
-                case 4: case 5: ford.height(below(10), 3 + below(10)); return true;
-                case 6: ford.height(below(11), below(32)); return true;
-                case 7: case 8: ford.rain(below(4)); return true;
-                case 9: ford.rain(below(11)); return true;
-                case 10: case 11: ford.letters(below(52)); return true;
-                case 12: case 13: case 14: arrive(ford, below(5) == 0 ? below(23) : below(6)); return true;
-                case 15: ford.leave(one); return true;
-                case 16: ford.stop(one); return true;
-                case 17: case 18: ford.go(one); return true;
-                case 19: case 20: case 21: case 22: ford.setOut(one); return true;
-                case 23: passAndLook(ford, 1 + below(24)); return true;
-                default: passAndLook(ford, 1 + below(4)); return true;
-            }
+            got = change.apply(ford);
         } catch (IndexOutOfBoundsException | IllegalArgumentException | UnsupportedOperationException wrong) {
+            Check.is("Terms, Exceptions: unchanged", Check.state(ford), state);
             return false;
         }
+        if (which >= 12 && which <= 14) {
+            arrived(ford, got);
+        } else if (which > 22 || which < 4) {
+            passed(ford, got);
+        }
+        CALLS.add(change);
+        return true;
     }
 
-    private static void arrive(FordToll ford, int load) {
-        int one = ford.traveller(load);
-        Check.is("the last number", one, ford.account(3) - 1);
+    private static void arrived(FordToll ford, int one) {
+        Check.is("10: the last number", one, ford.account(3) - 1);
+        int load = ford.travellerOf(one, 1);
         int[] due = {load < 4 ? 0 : load < 9 ? 1 : 2, load, 0, -1, 0, 1, 0, 0, 0};
         for (int what = 0; what <= 8; what++) {
-            Check.is("arrived, " + what, ford.travellerOf(one, what), due[what]);
+            Check.is("10: arrived, " + what, ford.travellerOf(one, what), due[what]);
         }
     }
 
-    private static void passAndLook(FordToll ford, int hours) {
-        Plain plain = new Plain(ford);
+    private static void passed(FordToll ford, int crossed) {
+        Plain plain = new Plain(made());
         int before = plain.crossings;
-        for (int hour = 0; hour < hours; hour++) {
+        while (plain.hour < ford.account(0)) {
             plain.hourGoesBy();
         }
-        Check.is("crossed", ford.pass(hours), plain.crossings - before);
-        Check.is("as worked out plainly", new Plain(ford).told(), plain.told());
+        Check.is("17: crossed", crossed, plain.crossings - before);
+        Check.is("17: as worked out plainly", new Plain(ford).told(), plain.told());
     }
 
-    private static void looked(FordToll ford, int run) {
+    private static void looked(FordToll ford, int changes) {
+        Plain plain = new Plain(ford);
         int hours = below(61);
-        Check.is("run " + run + ": flood", ford.flood(hours), ford.floodAgain(hours));
-        Check.is("run " + run + ": letters", ford.lettersAgain(), ford.account(8));
-        Check.is("run " + run + ": all are somewhere", ford.account(4) + ford.account(5) + ford.account(6), ford.account(3));
+        Check.is("28: 18", ford.account(18), changes);
+        Check.is("8: floodAgain", ford.floodAgain(hours), ford.flood(hours));
+        Check.is("29: letters", ford.lettersAgain(), ford.account(8));
+        Check.is("28: all are somewhere", ford.account(4) + ford.account(5) + ford.account(6), ford.account(3));
         int kinds = 0;
         for (int kind = 0; kind <= 2; kind++) {
             int steps = wetSteps(ford, kind);
-            Check.is("run " + run + ": wetSteps", steps, new Plain(ford).wetSteps(kind));
+            Check.is("19: wetSteps", steps, plain.wetSteps(kind));
             kinds |= steps >= 0 ? 1 << kind : 0;
         }
-        Check.is("run " + run + ": kinds", ford.kinds(), kinds);
-        Check.is("run " + run + ": line", Check.line(ford), new Plain(ford).line());
+        Check.is("20: kinds", ford.kinds(), kinds);
+        Check.is("26: line", Check.line(ford), plain.line());
         for (int traveller = 0; traveller < ford.account(3); traveller++) {
-            Check.is("run " + run + ": crossedIn", crossedIn(ford, traveller), new Plain(ford).crossedIn(traveller));
+            Check.is("18: crossedIn", crossedIn(ford, traveller), new Plain(plain).crossedIn(traveller));
         }
-        Check.is("run " + run + ": clearIn", clearIn(ford), new Plain(ford).clearIn());
+        Check.is("9: clearIn", clearIn(ford), new Plain(plain).clearIn());
     }
 
     private static int wetSteps(FordToll ford, int kind) {
@@ -168,6 +193,21 @@ public final class RandomRunsTest {
             delivered = ford.account(10);
             crossings = ford.account(13);
             backs = ford.account(14);
+        }
+
+        Plain(Plain other) {
+            System.arraycopy(other.heights, 0, heights, 0, 10);
+            people = new int[other.people.length][];
+            for (int one = 0; one < people.length; one++) {
+                people[one] = other.people[one].clone();
+            }
+            hour = other.hour;
+            flood = other.flood;
+            rain = other.rain;
+            bag = other.bag;
+            delivered = other.delivered;
+            crossings = other.crossings;
+            backs = other.backs;
         }
 
         String told() {

@@ -101,17 +101,23 @@ public final class UndoTest {
     }
 
     private static void snapshot() {
-        FordToll ford = busy();
-        Check.fails("34: none", IllegalStateException.class, ford::restore);
-        Check.is("33: hour", ford.save(), 3);
-        String saved = Check.state(ford);
+        String saved = Check.state(busy());
         for (int which = 0; which <= 8; which++) {
+            FordToll ford = busy();
+            Check.fails("34: none", IllegalStateException.class, ford::restore);
+            Check.is("33: hour", ford.save(), 3);
             change(ford, which == 4 ? 8 : which == 5 ? 1 : which);
             Check.is("34: hour", ford.restore(), 3);
             Check.is("34: as saved", Check.state(ford), saved);
             Check.is("34: no change", ford.account(18), 0);
             Check.fails("34: no undo", IllegalStateException.class, ford::undo);
         }
+        snapshotInPlace();
+    }
+
+    private static void snapshotInPlace() {
+        FordToll ford = busy();
+        ford.save();
         ford.pass(5);
         Check.is("33: in place of the earlier one", ford.save(), 8);
         ford.undo();
