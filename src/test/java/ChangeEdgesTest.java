@@ -75,11 +75,12 @@ public final class ChangeEdgesTest {
         LOOKS.add(FordToll::save);
     }
 
-    /** 0 crossed, 1 is near the far bank with letters, 2 is stopped, 3 went back and is wet, 4 and 5 never set out; it rises. */
+    /** 0 and 4 crossed, 1 is near the far bank with letters, 2 is stopped, 3 went back and is wet, 5 never set out; it rises. */
     private static FordToll busy() {
         FordToll ford = Scenes.with(4, 1, 5, 0, 2, 12);
         ford.letters(30);
         ford.setOut(0);
+        ford.setOut(4);
         ford.pass(11);
         ford.setOut(1);
         ford.setOut(2);
@@ -98,9 +99,12 @@ public final class ChangeEdgesTest {
     }
 
     private static void eachChangeIsUndone() {
-        Check.is("Terms, Changes: where they are", Scenes.places(busy()), "10 8 2 -1 -1 -1");
+        Check.is("Terms, Changes: where they are", Scenes.places(busy()), "10 8 2 -1 10 -1");
         Check.is("Terms, Changes: one is wet", Scenes.wets(busy()), "0 0 0 7 0 0");
         Check.is("Terms, Changes: one has letters", Scenes.numbers(busy(), 8), "0 9 0 0 0 0");
+        Check.is("Terms, Changes: letters came over", busy().account(10), 6);
+        Check.is("Terms, Changes: two crossed", busy().account(13), 2);
+        Check.is("Terms, Changes: one went back", busy().account(14), 1);
         for (int index = 0; index < CHANGES.size(); index++) {
             FordToll ford = busy();
             CHANGES.get(index).accept(ford);
@@ -131,7 +135,7 @@ public final class ChangeEdgesTest {
         FordToll ford = busy();
         String before = Check.state(ford);
         Check.is("17: one crosses", ford.pass(24), 1);
-        Check.is("28: 10, letters came over", ford.account(10), 9);
+        Check.is("28: 10, letters came over", ford.account(10), 15);
         Check.is("28: 14, one more went back", ford.account(14), 2);
         Check.is("28: 1, the flood", ford.account(1), 31);
         Check.is("32: left", ford.undo(), 7);

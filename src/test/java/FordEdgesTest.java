@@ -16,6 +16,7 @@ public final class FordEdgesTest {
         letters();
         lettersRefused();
         stoneOf();
+        stoneOfSeveral();
         under();
         bottomOfTheFlood();
         topOfTheFlood();
@@ -218,6 +219,18 @@ public final class FordEdgesTest {
         }
         ford.pass(1);
         Check.is("5: who is on the far bank is on no stone", ford.stoneOf(9, 2), 0);
+    }
+
+    private static void stoneOfSeveral() {
+        FordToll ford = onBothEnds();
+        Check.is("5: on the first stone, but not the traveller 0", ford.stoneOf(0, 2), 2);
+        Check.is("5: on the last stone", ford.stoneOf(9, 2), 2);
+        Check.is("5: between them", ford.stoneOf(5, 2), 0);
+        ford.stop(0);
+        ford.pass(1);
+        Check.is("5: on the last stone, the traveller 0 alone", ford.stoneOf(9, 2), 1);
+        Check.is("5: on the second stone", ford.stoneOf(1, 2), 2);
+        Check.is("5: on the first stone", ford.stoneOf(0, 2), 0);
     }
 
     private static void under() {
