@@ -978,10 +978,6 @@ public final class FordToll {
                 }
                 return inside;
             }
-            return readComparison(ford);
-        }
-
-        private int readComparison(Ford ford) {
             Word word = readWord();
             if (word == null) {
                 return 0;
